@@ -104,7 +104,7 @@ public final class MarkInlines {
     public int read() throws IllegalArgumentException {
         nodes.forget();
         reader.markAll();
-        latestFault = reader.fault;
+        latestFault = reader.faultKind;
         if (latestFault == 0 && !nodes.build()) {
             latestFault = FAULT_DEEP;
         }
@@ -202,7 +202,7 @@ public final class MarkInlines {
                 return;
             }
             if (count >= cells.length) {
-                cells = Arrays.copyOf(cells, roomFor(count + 1));
+                cells = Arrays.copyOf(cells, 2 * cells.length);
             }
             cells[count] = value;
             count++;
@@ -217,14 +217,9 @@ public final class MarkInlines {
         void refill(int length, int value) {
             count = Math.max(0, Math.min(length, most));
             if (count > cells.length) {
-                cells = new int[roomFor(count)];
+                cells = new int[Math.max(count, 2 * cells.length)];
             }
             Arrays.fill(cells, 0, count, value);
-        }
-
-        /** Twice the room there was, so that growing stays rare, but no more than can be used. */
-        private int roomFor(int length) {
-            return Math.max(length, Math.min(most, 2 * cells.length));
         }
     }
 
@@ -944,7 +939,7 @@ public final class MarkInlines {
         private final Marks marks;
         private final Runs runs;
         private final Links links;
-        private int fault;
+        private int faultKind;
         private int faultPlace;
 
         Reader(Row tape, Scan scan, References references, Marks marks, Definitions definitions) {
@@ -954,61 +949,70 @@ public final class MarkInlines {
             this.marks = marks;
             runs = new Runs(tape, marks);
             links = new Links(tape, scan, marks, runs, definitions);
-            fault = 0;
+            faultKind = 0;
             faultPlace = NONE;
         }
 
         void markAll() {
-            marks.startOver(tape);
-            runs.forgetFrom(0);
-            links.startOver();
-            fault = 0;
-            faultPlace = NONE;
+            startOver();
             int p = 0;
-            while (p < tape.size() && fault == 0) {
-                p = Math.max(p + 1, markAt(p));
+            while (p < tape.size() && faultKind == 0) {
+                int next = p + 1;
+                switch (tape.at(p)) {
+                    case 10:
+                        markLineEnd(p);
+                        break;
+                    case '\\':
+                        next = markBackslash(p);
+                        break;
+                    case '`':
+                        next = markCoding(p);
+                        break;
+                    case '<':
+                        next = markAngle(p);
+                        break;
+                    case '&':
+                        next = markReference(p);
+                        break;
+                    case '*':
+                    case '_':
+                        next = scan.sameEnd(p);
+                        runs.meet(p, next);
+                        break;
+                    case '!':
+                    case '[':
+                        next = markBracket(p);
+                        break;
+                    case ']':
+                        next = links.close(p);
+                        break;
+                    default:
+                        break;
+                }
+                p = Math.max(p + 1, next);
             }
+            // With a fault the marks are not used, so what is paired then does not matter.
             runs.pairFrom(0);
         }
 
-        /** Marks what stands at p: the place to go on from. */
-        private int markAt(int p) {
-            switch (tape.at(p)) {
-                case 10:
-                    return markLineEnd(p);
-                case '\\':
-                    return markBackslash(p);
-                case '`':
-                    return markCoding(p);
-                case '<':
-                    return markAngle(p);
-                case '&':
-                    return markReference(p);
-                case '*':
-                case '_':
-                    int end = scan.sameEnd(p);
-                    runs.meet(p, end);
-                    return end;
-                case '!':
-                case '[':
-                    return markBracket(p);
-                case ']':
-                    return links.close(p);
-                default:
-                    return p + 1;
-            }
+        private void startOver() {
+            marks.startOver(tape);
+            runs.forgetFrom(0);
+            links.startOver();
+            faultKind = 0;
+            faultPlace = NONE;
         }
 
-        private int markLineEnd(int p) {
+        private void markLineEnd(int p) {
             int spaces = p;
             while (spaces > 0 && tape.at(spaces - 1) == 32) {
                 spaces--;
             }
             marks.erase(spaces, p);
             marks.kinds.put(p, p - spaces >= 2 ? HARD : SOFT);
-            return p + 1;
         }
 
+        /** Like all below: marks what stands at p, and answers the place to go on from. */
         private int markBackslash(int p) {
             if (tape.at(p + 1) == 10) {
                 marks.erase(p, p + 1);
@@ -1098,7 +1102,7 @@ public final class MarkInlines {
         }
 
         private void stopWith(int kind, int place) {
-            fault = kind;
+            faultKind = kind;
             faultPlace = place;
         }
     }
