@@ -102,7 +102,6 @@ public final class MarkInlines {
     }
 
     public int read() throws IllegalArgumentException {
-        nodes.forget();
         reader.markAll();
         latestFault = reader.faultKind;
         if (latestFault == 0 && !nodes.build()) {
@@ -284,7 +283,7 @@ public final class MarkInlines {
         }
     }
 
-    /** Finds where something that begins at a place ends: the place just behind it, or NONE if it does not stand there. */
+    /** Finds where what begins at a place ends: the place just behind it, or NONE if it does not stand there. */
     private static final class Scan {
         private static final int SCHEME_MOST = 32;
 

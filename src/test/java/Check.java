@@ -94,7 +94,8 @@ final class Check {
         }
         int length = x.write();
         String written = output(x);
-        return written.codePointCount(0, written.length()) == length ? written : "not of the length answered: " + written;
+        boolean asAnswered = written.codePointCount(0, written.length()) == length;
+        return asAnswered ? written : "not of the length answered: " + written;
     }
 
     static String output(MarkInlines x) {

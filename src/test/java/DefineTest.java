@@ -90,6 +90,11 @@ public final class DefineTest {
         x.read();
         CHECK.due("the next read has no definition", Check.nodes(x), "TEXT@-1/1=\"[b]\"");
         CHECK.due("numbers begin anew", define(x, "b"), 0);
+        CHECK.due("and what was there is not", define(x, "a"), 1);
+        Check.load(x, "[b] [a]");
+        x.read();
+        CHECK.due("the new ones", Check.nodes(x),
+                "LINK@-1/1#0 TEXT@0/2=\"b\" TEXT@-1/1=\" \" LINK@-1/1#1 TEXT@3/2=\"a\"");
         x.drop();
         for (int i = 0; i < 20; i++) {
             define(x, "n" + i);

@@ -31,6 +31,7 @@ public final class LinksTest {
         CHECK.dueNodes("[a](\u00A0\u0080)", "LINK@-1/1=\"\u00A0\u0080\" TEXT@0/2=\"a\"");
         CHECK.dueNodes("[a](*b*)", "LINK@-1/1=\"*b*\" TEXT@0/2=\"a\"");
         CHECK.dueWritten("[a](b(c)", "[a](b(c)");
+        CHECK.dueWritten("[a](b(c )", "[a](b(c )");
         CHECK.dueWritten("[a](b c)", "[a](b c)");
         CHECK.dueWritten("[a](b", "[a](b");
         CHECK.dueWritten("[a](", "[a](");
@@ -103,7 +104,8 @@ public final class LinksTest {
         CHECK.dueNodes("![a][r]b", "IMAGE@-1/1#0 TEXT@0/2=\"a\" TEXT@-1/1=\"b\"", "r");
         CHECK.dueNodes("[a][ R\n s\t]", "LINK@-1/1#0 TEXT@0/2=\"a\"", "r s");
         CHECK.dueNodes("[][r]", "LINK@-1/1#0", "r");
-        CHECK.dueNodes("[*a* `]`][\\]]", "LINK@-1/1#0 EMPHASIS@0/2 TEXT@1/3=\"a\" TEXT@0/2=\" \" CODING@0/2=\"]\"", "\\]");
+        CHECK.dueNodes("[*a* `]`][\\]]",
+                "LINK@-1/1#0 EMPHASIS@0/2 TEXT@1/3=\"a\" TEXT@0/2=\" \" CODING@0/2=\"]\"", "\\]");
         CHECK.dueNodes("[![a](b)][r]", "LINK@-1/1#0 IMAGE@0/2=\"b\" TEXT@1/3=\"a\"", "r");
         CHECK.dueWritten("[a][x]", "[a][x]", "a");
         CHECK.dueWritten("[a][x](u)", "[a]<a href=\"u\">x</a>", "a");
@@ -147,6 +149,8 @@ public final class LinksTest {
     private static void brackets() {
         CHECK.dueWritten("a]", "a]");
         CHECK.dueWritten("](u)", "](u)");
+        CHECK.dueWritten("]*a*", "]<em>a</em>");
+        CHECK.dueWritten("[x]*a*", "[x]<em>a</em>");
         CHECK.dueWritten("[a", "[a");
         CHECK.dueWritten("![a", "![a");
         CHECK.dueWritten("!a", "!a");

@@ -32,6 +32,8 @@ public final class OutputTest {
         duePlain("[](u)", 0, "");
         duePlain("<a@b> c", 0, "a@b");
         duePlain("*a* b", 2, " b");
+        duePlain("a\nb", 0, "a");
+        duePlain("*a*`b`", 0, "a");
         duePlain("&#1114111;&euro;", 0, new StringBuilder().appendCodePoint(1114111).append('\u20AC').toString());
     }
 

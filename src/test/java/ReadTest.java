@@ -30,6 +30,12 @@ public final class ReadTest {
         x.end(1);
         CHECK.due("what was read stays", Check.nodes(x), "EMPHASIS@-1/1 TEXT@0/2=\"a\"");
         CHECK.due("read() of more", x.read(), 3);
+        MarkInlines full = Check.with("<a@b>".repeat(300));
+        for (int i = 0; i < 20; i++) {
+            CHECK.due("read() of a full tape, time " + i, full.read(), 600);
+            CHECK.due("its last letter, time " + i, full.letter(599, false, 2), 'b');
+            CHECK.due("its last target, time " + i, full.letter(598, false, 9), 'b');
+        }
     }
 
     private static void faultsOfReferences() {

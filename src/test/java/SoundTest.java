@@ -2,9 +2,9 @@ import java.util.Random;
 
 /** Whatever is called, nothing but the document's exceptions is thrown, and the nodes are sound. */
 public final class SoundTest {
-    private static final String[] SIGNS = {"a", "b", " ", "  ", "\n", "\t", "*", "**", "***", "_", "__", "`", "``", "[", "]",
-        "![", "](", "](u)", "](<v w> 't')", "[a]", "[]", "(", ")", "<", ">", "<ab:c>", "<a@b>", "\\", "\"", "'", "&amp;",
-        "&#65;", "&#x0;", "&", ";", "!", ".", "\u00A0", "\u00BF", "\1", "\u007F"};
+    private static final String[] SIGNS = {"a", "b", " ", "  ", "\n", "\t", "*", "**", "***", "_", "__", "`", "``", "[",
+        "]", "![", "](", "](u)", "](<v w> 't')", "[a]", "[]", "(", ")", "<", ">", "<ab:c>", "<a@b>", "\\", "\"", "'",
+        "&amp;", "&#65;", "&#x0;", "&", ";", "!", ".", "\u00A0", "\u00BF", "\1", "\u007F"};
 
     private static final Check CHECK = new Check();
 
@@ -17,6 +17,9 @@ public final class SoundTest {
                 sound(x, text);
             }
             CHECK.due("read again", read(x), text);
+        }
+        for (int run = 0; run < 1000; run++) {
+            readBehindAnother(random);
         }
         for (int run = 0; run < 300; run++) {
             strayCalls(random);
@@ -49,8 +52,29 @@ public final class SoundTest {
             for (int up = holder; up != MarkInlines.NONE; up = x.node(up, 1)) {
                 noLinkInLink = noLinkInLink && !(x.node(k, 0) == 6 && x.node(up, 0) == 6);
             }
-            CHECK.due("node " + k + " of what is written " + text, held && deep && apart && filled && noLinkInLink ? 1 : 0, 1);
+            boolean all = held && deep && apart && filled && noLinkInLink;
+            CHECK.due("node " + k + " of what is written " + text, all ? 1 : 0, 1);
         }
+    }
+
+    /** That nothing of an earlier text is left in a later one. */
+    private static void readBehindAnother(Random random) {
+        String later = text(random, SIGNS, 20);
+        MarkInlines used = new MarkInlines();
+        MarkInlines fresh = new MarkInlines();
+        Check.load(used, "xyz");
+        used.define();
+        Check.load(used, text(random, SIGNS, 20) + "[xyz]");
+        read(used);
+        used.drop();
+        Check.load(used, "a");
+        used.define();
+        Check.load(used, later);
+        Check.load(fresh, "a");
+        fresh.define();
+        Check.load(fresh, later);
+        CHECK.due("later " + later, read(used), read(fresh));
+        CHECK.due("nodes of later " + later, Check.nodes(used), Check.nodes(fresh));
     }
 
     private static void strayCalls(Random random) {
@@ -64,8 +88,8 @@ public final class SoundTest {
                 thrown = e.getClass().getSimpleName();
             }
             boolean fine = thrown.equals("nothing")
-                    || which == 3 && (thrown.equals("IllegalArgumentException") || thrown.equals("IllegalStateException"))
-                    || which == 5 && thrown.equals("IllegalArgumentException")
+                    || (which == 3 || which == 5) && thrown.equals("IllegalArgumentException")
+                    || which == 3 && thrown.equals("IllegalStateException")
                     || which == 9 && thrown.equals("IndexOutOfBoundsException")
                     || which == 10 && thrown.equals("IllegalStateException");
             CHECK.due("call of kind " + which + " threw " + thrown, fine ? 1 : 0, 1);

@@ -76,6 +76,12 @@ public final class TextTest {
         CHECK.dueWritten("<a" + scheme + ":>", "fault 2 at 0");
         CHECK.dueWritten("<a:>", "fault 2 at 0");
         CHECK.dueWritten("<1b:>", "&lt;1b:&gt;");
+        String[] schemes = {"A0", "Z9", "zA", "az", "aZ", "a+", "a-", "a."};
+        for (String fine : schemes) {
+            CHECK.dueWritten("<" + fine + ":>", "<a href=\"" + fine + ":\">" + fine + ":</a>");
+        }
+        CHECK.dueWritten("<@b:>", "&lt;@b:&gt;");
+        CHECK.dueWritten("<a_:>", "fault 2 at 0");
         CHECK.dueWritten("<ab: c>", "fault 2 at 0");
         CHECK.dueWritten("<ab:\u007F>", "fault 2 at 0");
         CHECK.dueWritten("<ab:c<d>", "fault 2 at 0");
@@ -92,6 +98,16 @@ public final class TextTest {
         CHECK.dueWritten("<1@b->", "&lt;1@b-&gt;");
         CHECK.dueWritten("<1@b@c>", "&lt;1@b@c&gt;");
         CHECK.dueWritten("<1,2@b>", "&lt;1,2@b&gt;");
+        CHECK.dueWritten("<,1@b>", "&lt;,1@b&gt;");
+        CHECK.dueWritten("<*a*", "&lt;<em>a</em>");
+        CHECK.dueNodes("<09AZaz@A09azZ>", "LINK@-1/1=\"mailto:09AZaz@A09azZ\" TEXT@0/2=\"09AZaz@A09azZ\"");
+        CHECK.dueNodes("<z@0>", "LINK@-1/1=\"mailto:z@0\" TEXT@0/2=\"z@0\"");
+        for (char c = '!'; c < 256; c++) {
+            boolean sign = c < 127 && Character.isLetterOrDigit(c) || ".-_+".indexOf(c) >= 0;
+            String mail = "<1" + c + "@b>";
+            boolean link = Check.readAndWritten(Check.with(mail)).startsWith("<a href=\"mailto:");
+            CHECK.due(mail, link ? 1 : 0, sign ? 1 : 0);
+        }
         CHECK.dueWritten("<a@b c>", "fault 2 at 0");
         CHECK.dueWritten("<a@b", "&lt;a@b");
         String many = "<a@b>".repeat(300);
@@ -99,11 +115,13 @@ public final class TextTest {
     }
 
     private static void references() {
-        CHECK.dueNodes("&amp;&lt;&gt;&quot;&apos;&nbsp;&copy;&reg;&auml;&ouml;&uuml;&szlig;&eacute;&euro;&hellip;&mdash;",
-                "TEXT@-1/1=\"&<>\"'\u00A0\u00A9\u00AE\u00E4\u00F6\u00FC\u00DF\u00E9\u20AC\u2026\u2014\"");
+        CHECK.dueNodes("&amp;&lt;&gt;&quot;&apos;&nbsp;&copy;&reg;", "TEXT@-1/1=\"&<>\"'\u00A0\u00A9\u00AE\"");
+        CHECK.dueNodes("&auml;&ouml;&uuml;&szlig;&eacute;&euro;&hellip;&mdash;",
+                "TEXT@-1/1=\"\u00E4\u00F6\u00FC\u00DF\u00E9\u20AC\u2026\u2014\"");
         CHECK.dueNodes("&AMP; &am; &ampx; &amp &; & &#; &#x; &#xg; &#a;",
                 "TEXT@-1/1=\"&AMP; &am; &ampx; &amp &; & &#; &#x; &#xg; &#a;\"");
         CHECK.dueNodes("&#65;&#0000065;&#x41;&#X000041;&#xaF;", "TEXT@-1/1=\"AAAA\u00AF\"");
+        CHECK.dueNodes("&#x2A;&#xFa;&#x09;&#90;", "TEXT@-1/1=\"*\u00FA\tZ\"");
         CHECK.dueNodes("&#00000065; &#x0000041;", "TEXT@-1/1=\"&#00000065; &#x0000041;\"");
         CHECK.dueNodes("&#0;&#x0;&#1114112;&#9999999;&#x110000;&#xFFFFFF;", "TEXT@-1/1=\"" + "\uFFFD".repeat(6) + "\"");
         CHECK.dueNodes("&#55296;&#57343;&#xD800;&#xdfff;", "TEXT@-1/1=\"" + "\uFFFD".repeat(4) + "\"");
@@ -115,5 +133,6 @@ public final class TextTest {
         CHECK.due("length", x.node(0, 2), 3);
         CHECK.dueNodes("&#42;a&#42; &#91;a](u)", "TEXT@-1/1=\"*a* [a](u)\"");
         CHECK.dueNodes("a&lt;b&#10;c", "TEXT@-1/1=\"a<b\nc\"");
+        CHECK.dueWritten("&*a*", "&amp;<em>a</em>");
     }
 }
