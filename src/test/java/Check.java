@@ -106,6 +106,16 @@ final class Check {
         return text.toString();
     }
 
+    /** All that an object tells of itself, so that a call that is refused can be seen to change none of it. */
+    static String state(MarkInlines x) {
+        StringBuilder all = new StringBuilder();
+        for (int what = 0; what < 4; what++) {
+            all.append(x.about(what)).append(' ');
+        }
+        all.append(x.fault(0)).append(' ').append(x.fault(1)).append(' ');
+        return all.append(nodes(x)).append(' ').append(output(x)).toString();
+    }
+
     /** All nodes: KIND@holder/depth, ="text" (or target), ~"title", #definition. */
     static String nodes(MarkInlines x) {
         String[] kinds = {"TEXT", "SOFT", "HARD", "CODING", "EMPHASIS", "STRONG", "LINK", "IMAGE"};
