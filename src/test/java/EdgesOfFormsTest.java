@@ -112,7 +112,8 @@ public final class EdgesOfFormsTest {
         for (String label : none) {
             CHECK.dueThrow("define() of " + label, Check.with(label)::define, IllegalArgumentException.class);
         }
-        String[] fine = {"\\[", "\\]", "a\\[", "\\]a", "\\\\", "\\\\\\[", "\\\\\\]", "\\\\\\\\", "\\a", "\\ ", "\\[\\]"};
+        String[] fine = {"\\[", "\\]", "a\\[", "\\]a", "\\\\", "\\\\\\[", "\\\\\\]", "\\\\\\\\", "\\a", "\\ ",
+            "\\[\\]"};
         for (String label : fine) {
             CHECK.due("define() of " + label, Check.with(label).define(), 0);
             dueLink("[a][" + label + "]", true, label);
@@ -171,7 +172,8 @@ public final class EdgesOfFormsTest {
         dueTarget("\u0080\u00FF~", "\u0080\u00FF~");
         // without one it is empty
         dueTarget("", "");
-        String[] none = {"u v", "u\tv", "u\t", "u\r", "u\0", "u\37", "u\u007F", "\u007F", "\1", "\t", "u 't' v", "u v 't'"};
+        String[] none = {"u v", "u\tv", "u\t", "u\r", "u\0", "u\37", "u\u007F", "\u007F", "\1", "\t",
+            "u 't' v", "u v 't'"};
         for (String target : none) {
             dueLink("[a](" + target + ")", false);
         }

@@ -66,6 +66,8 @@ public final class EdgesOfLinksTest {
         CHECK.dueWritten("[a](<u>)(v)", "<a href=\"u\">a</a>(v)");
         CHECK.dueWritten("[a] (u)", "[a] (u)");
         CHECK.dueWritten("[a]\n(u)", "[a]\n(u)");
+        CHECK.dueWritten("[a]u)", "[a]u)");
+        CHECK.dueWritten("[a]<u)", "[a]&lt;u)");
         CHECK.dueWritten("[a](u", "[a](u");
         CHECK.dueWritten("[a](<1>", "[a](&lt;1&gt;");
         CHECK.dueWritten("[a](u 't'", "[a](u 't'");

@@ -303,6 +303,9 @@ public final class EdgesOfNodesTest {
         CHECK.dueWritten("![a ![*b](u) c*](v)", "<img src=\"v\" alt=\"a *b c*\"/>");
         CHECK.dueWritten("*[a](u)*", "<em><a href=\"u\">a</a></em>");
         CHECK.dueWritten("*a [*b](u)*", "<em>a <a href=\"u\">*b</a></em>");
+        CHECK.dueWritten("[a](u)*b [c*](v)", "<a href=\"u\">a</a>*b <a href=\"v\">c*</a>");
+        // Nor are the lengths of those that pair no more asked for.
+        CHECK.dueWritten("[***a](u) a*b**", "<a href=\"u\">***a</a> a*b**");
     }
 
     // Brackets that stay are TEXT. .. TEXTS side by side are one; empty ones are none. Spaces and 10 at the text's end

@@ -356,6 +356,10 @@ public final class EdgesOfPromisesTest {
                 CHECK.due("node(" + k + ", " + what + ")", x.node(k, what), want[k][what]);
             }
         }
+        MarkInlines many = Check.with("[a](u)".repeat(100) + "*b*__c__");
+        many.read();
+        CHECK.due("of EMPHASIS behind 100 links", many.node(200, 2), 0);
+        CHECK.due("of STRONG behind 100 links", many.node(202, 2), 0);
         CHECK.dueNodes("![a][r]**b**  \n`c`", "IMAGE@-1/1#0 TEXT@0/2=\"a\" STRONG@-1/1 TEXT@2/2=\"b\" HARD@-1/1"
                 + " CODING@-1/1=\"c\"", "r");
     }
@@ -446,7 +450,7 @@ public final class EdgesOfPromisesTest {
     }
 
     private static void nothingOfAnEarlierRead() {
-        String[] earlier = {"[a", "![a", "*a", "_a **b", "[a](u 't')", "`a", "[[[<ab:>", "<b>", "[a *b &#1;"};
+        String[] earlier = {"[a", "![a", "*a", "_a **b", "***a", "[a](u 't')", "`a", "[[[<ab:>", "<b>", "[a *b &#1;"};
         for (String first : earlier) {
             dueBehind(first, "b](v)", "b](v)");
             dueBehind(first, "b*", "b*");
@@ -455,6 +459,7 @@ public final class EdgesOfPromisesTest {
             dueBehind(first, "![b](v)[c]", "<img src=\"v\" alt=\"b\"/>[c]");
             dueBehind(first, "<a@b>", "<a href=\"mailto:a@b\">a@b</a>");
             dueBehind(first, "b`", "b`");
+            dueBehind(first, "a*b**", "a*b**");
         }
     }
 
@@ -463,7 +468,9 @@ public final class EdgesOfPromisesTest {
         Check.readAndWritten(x);
         Check.load(x, later);
         CHECK.due(later + " behind " + first, Check.readAndWritten(x), want);
-        CHECK.due("its first title", x.node(0, 3), 0);
+        MarkInlines fresh = Check.with(later);
+        fresh.read();
+        CHECK.due("nodes of " + later + " behind " + first, Check.nodes(x), Check.nodes(fresh));
     }
 
     private static void twoObjects() {

@@ -83,6 +83,8 @@ public final class EdgesOfSignsTest {
         }
         MarkInlines x = Check.with("a b");
         x.define();
+        Check.load(x, "a" + c + "b");
+        due("a, character " + (int) c + ", b is a b", x.define() == 0, isWhite(c));
         Check.load(x, "a" + c + c + "b");
         due("a, twice character " + (int) c + ", b is a b", x.define() == 0, isWhite(c));
         Check.load(x, c + "a b" + c);
@@ -143,7 +145,7 @@ public final class EdgesOfSignsTest {
 
     // DIGITS 0 .. 9
     private static void digits(char c) {
-        due("&#6" + c + ";", isReference("&#6" + c + ";", 60 + c - '0'), isDigit(c));
+        CHECK.due("&#6" + c + ";", told("&#6" + c + ";"), isDigit(c) ? 60 + c - '0' : -1);
     }
 
     // 1 .. 6 digits of hexadecimals
@@ -152,21 +154,22 @@ public final class EdgesOfSignsTest {
         boolean digit = worth >= 0 && c < 128;
         for (char x : new char[] {'x', 'X'}) {
             String text = "&#" + x + "4" + c + ";";
-            due(text, isReference(text, 64 + worth), digit);
+            CHECK.due(text, told(text), digit ? 64 + worth : -1);
         }
         if ("xX0123456789".indexOf(c) < 0) {
-            due("&#" + c + "41;", isReference("&#" + c + "41;", 65), false);
+            CHECK.due("&#" + c + "41;", told("&#" + c + "41;"), -1);
         }
     }
 
-    private static boolean isReference(String text, int told) {
+    /** The one character that a text tells, or -1 if it has a fault or is not one character. */
+    private static int told(String text) {
         MarkInlines x = Check.with(text);
         try {
             x.read();
         } catch (IllegalArgumentException e) {
-            return false;
+            return -1;
         }
-        return x.node(0, 2) == 1 && x.letter(0, false, 0) == told;
+        return x.about(2) == 1 && x.node(0, 2) == 1 ? x.letter(0, false, 0) : -1;
     }
 
     // ASCII PUNCTUATION: 33 .. 47, 58 .. 64, 91 .. 96, 123 .. 126 (\ and ASCII PUNCTUATION as that one)
