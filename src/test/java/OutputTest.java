@@ -10,6 +10,7 @@ public final class OutputTest {
         writtenLabels();
         output();
         longest();
+        deepest();
         CHECK.end();
     }
 
@@ -123,5 +124,15 @@ public final class OutputTest {
         CHECK.dueWritten("\"".repeat(1500), "&quot;".repeat(1500));
         CHECK.dueWritten("[\"]\"".repeat(375), "<a href=\"#0\">&quot;</a>&quot;".repeat(375), "\"");
         CHECK.dueWritten("![\"]\"".repeat(300), "<img src=\"#0\" alt=\"&quot;\"/>&quot;".repeat(300), "\"");
+    }
+
+    /** Twenty deep, all of which end at one place. */
+    private static void deepest() {
+        String opening = "*a _b ".repeat(9) + "*a ";
+        String closing = "*" + "_*".repeat(9);
+        String begun = "<em>a <em>b ".repeat(9) + "<em>a ";
+        CHECK.dueWritten(opening + "[](u)" + closing, begun + "<a href=\"u\"></a>" + "</em>".repeat(19));
+        CHECK.dueWritten(opening + "[](u)" + closing + " c", begun + "<a href=\"u\"></a>" + "</em>".repeat(19) + " c");
+        CHECK.dueWritten(opening + "[b](u)" + closing, "fault 3 at -1");
     }
 }
